@@ -744,7 +744,6 @@ public final class PostalAuction {
             for (int lot = 0; lot < now.lots.size; lot++) {
                 askingPrices.put(lot, now.askingPrice(lot));
                 judgeBids(lot);
-                chooseBestBids(lot);
                 orderBids(lot);
                 sell(lot);
             }
@@ -779,12 +778,24 @@ public final class PostalAuction {
         }
 
         private void judgeBids(int lot) {
+            for (int bidder = 0; bidder < now.bidders; bidder++) {
+                bestBids.put(bidder, NONE);
+            }
             for (int bid = 0; bid < now.bids.size; bid++) {
                 if (now.bids.lots.get(bid) == lot) {
-                    int left = leftBefore(lot, now.bids.bidders.get(bid));
-                    worths.put(bid, now.steps.floor(Math.min(now.bids.amounts.get(bid), left)));
-                    fates.put(bid, reasonAgainst(bid, lot));
+                    judge(bid, lot);
                 }
+            }
+        }
+
+        private void judge(int bid, int lot) {
+            int bidder = now.bids.bidders.get(bid);
+            int left = leftBefore(lot, bidder);
+            worths.put(bid, now.steps.floor(Math.min(now.bids.amounts.get(bid), left)));
+            int reason = reasonAgainst(bid, lot);
+            fates.put(bid, reason);
+            if (reason == BUYS) {
+                chooseBetween(bestBids.get(bidder), bid);
             }
         }
 
@@ -812,23 +823,12 @@ public final class PostalAuction {
                 return false;
             }
             for (int earlier = 0; earlier < lot; earlier++) {
-                boolean isBuyer = buyers.get(earlier) == bidder;
-                if (isBuyer && now.bids.groups.get(bidAt(earlier, 0)) == group) {
+                int winner = order.get(earlier * MOST_BIDDERS);
+                if (buyers.get(earlier) == bidder && now.bids.groups.get(winner) == group) {
                     return true;
                 }
             }
             return false;
-        }
-
-        private void chooseBestBids(int lot) {
-            for (int bidder = 0; bidder < now.bidders; bidder++) {
-                bestBids.put(bidder, NONE);
-            }
-            for (int bid = 0; bid < now.bids.size; bid++) {
-                if (now.bids.lots.get(bid) == lot && fates.get(bid) == BUYS) {
-                    chooseBetween(bestBids.get(now.bids.bidders.get(bid)), bid);
-                }
-            }
         }
 
         /** The earlier bid, if there is one, stays unless the later one is worth more. */
