@@ -1,6 +1,6 @@
 /** Promises 1 to 26 together: long runs of calls, each answer compared with that of the model. */
 public final class ModelTest {
-    private static final int RUNS = 1500;
+    private static final int RUNS = 1000;
     private static final int CALLS = 512;
     private static final int[] ODD = {-1, 0, 1, 4, 5, 7, 8, 19, 20, 59, 60, 80, 100, 500, 501, 1000, 1001, 50000, 50001,
         100000, 100001, 1000000, 1000001, 2000000, 2000001, 10000000, 10000001, Integer.MIN_VALUE, Integer.MAX_VALUE};
@@ -36,10 +36,10 @@ public final class ModelTest {
         int lots = 1 + below(8);
         int bidders = 1 + below(8);
         for (int i = 0; i < lots; i++) {
-            make(run, new Script.Call("addLot", below(5), amount(), below(3) == 0 ? amount() : 0));
+            make(run, new Call("addLot", below(5), amount(), below(3) == 0 ? amount() : 0));
         }
         for (int i = 0; i < bidders; i++) {
-            make(run, new Script.Call("addBidder", below(4) == 0 ? 1000 : 2 * amount()));
+            make(run, new Call("addBidder", below(4) == 0 ? 1000 : 2 * amount()));
         }
         for (int made = lots + bidders; made < CALLS; made++) {
             boolean acts = below(5) < 2;
@@ -51,11 +51,11 @@ public final class ModelTest {
         }
     }
 
-    private void make(int run, Script.Call call) {
+    private void make(int run, Call call) {
         Script.due("run " + run + ": " + call, call.on(auction), call.on(model));
     }
 
-    private Script.Call next(String name) {
+    private Call next(String name) {
         Object[] arguments = usual(name);
         // needed is dear in the model: it is asked more seldom
         if (name.equals("needed") && below(3) > 0) {
@@ -71,7 +71,7 @@ public final class ModelTest {
         if (name.equals("setBand") && (int) arguments[1] > 50 && (int) arguments[0] < 300) {
             arguments[1] = 50;
         }
-        return new Script.Call(name, arguments);
+        return new Call(name, arguments);
     }
 
     private Object[] usual(String name) {
@@ -143,11 +143,11 @@ public final class ModelTest {
         if (below(6) == 0) {
             text.deleteCharAt(below(text.length()));
         }
-        make(run, new Script.Call("clearText"));
+        make(run, new Call("clearText"));
         for (int i = 0; i < Math.min(text.length(), 32); i++) {
-            make(run, new Script.Call("type", text.charAt(i)));
+            make(run, new Call("type", text.charAt(i)));
         }
-        make(run, new Script.Call("letter", bidder(), postmark()));
+        make(run, new Call("letter", bidder(), postmark()));
         return Math.min(text.length(), 32) + 1;
     }
 }

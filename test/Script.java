@@ -1,5 +1,3 @@
-import java.lang.reflect.InvocationTargetException;
-import java.lang.reflect.Method;
 import java.util.ArrayList;
 import java.util.List;
 
@@ -11,11 +9,13 @@ import java.util.List;
  *   bid 0 0 20 1 0 *3        the same call three times, whatever it answers
  *   say 0=5,1=7              empties the text and types this one
  *
- * After each run it is told again without the calls that reported an error or NONE and those that only tell;
- * whatever can be told must be the same then.
+ * A number can be a sum or a difference, such as 1000000+5.
+ *
+ * After each call that reports an error or NONE, and that might have changed something, all that can be told must be as
+ * it was before; and after the whole run it must be as if the calls that only tell had not been made.
  */
 final class Script {
-    private static final int MOST_CALLS = 512;
+    private static final long MOST_SECONDS = 600;
     private static int wrong = 0;
     private static int answers = 0;
 
@@ -23,45 +23,16 @@ final class Script {
     private final List<Call> calls = new ArrayList<>();
     private final List<Call> changes = new ArrayList<>();
     private final PostalAuction auction = new PostalAuction();
+    private List<String> toldOfChanges = null;
+
+    static {
+        Thread guard = new Thread(Script::giveUp);
+        guard.setDaemon(true);
+        guard.start();
+    }
 
     private Script(String title) {
         this.title = title;
-    }
-
-    /** A call of the face, which can be made on an auction or on a model of it. */
-    record Call(String name, Object... arguments) {
-        long on(Object target) {
-            for (Method method : target.getClass().getDeclaredMethods()) {
-                if (method.getName().equals(name) && (method.getModifiers() & 1) == 1) {
-                    return answerOf(method, target);
-                }
-            }
-            throw new IllegalStateException("no method " + name);
-        }
-
-        private long answerOf(Method method, Object target) {
-            try {
-                return ((Number) method.invoke(target, arguments)).longValue();
-            } catch (InvocationTargetException thrown) {
-                throw new IllegalStateException(this + " throws", thrown.getCause());
-            } catch (IllegalAccessException hidden) {
-                throw new IllegalStateException(hidden);
-            }
-        }
-
-        boolean onlyTells() {
-            return List.of("valid", "sale", "ranked", "fate", "needed", "lot", "bidOf", "bidder", "seller", "account",
-                    "count").contains(name);
-        }
-
-        @Override
-        public String toString() {
-            List<String> texts = new ArrayList<>();
-            for (Object argument : arguments) {
-                texts.add(argument instanceof Character c ? "(char) " + (int) c : argument.toString());
-            }
-            return name + "(" + String.join(", ", texts) + ")";
-        }
     }
 
     static void run(String title, String lines) {
@@ -71,7 +42,20 @@ final class Script {
                 script.perform(line.strip());
             }
         }
-        script.compareWithChangesAlone();
+        script.compareWithChangesAlone("the calls that only tell or are refused", script.calls);
+    }
+
+    /** The lines for each value, on an auction of its own; the value stands for "#". */
+    static void each(String title, String values, String lines) {
+        for (String value : values.split(" ")) {
+            run(title + " [" + value + "]", lines.replace("#", value));
+        }
+    }
+
+    /** Both ends of a range and the values beside them; outside of it also the outermost ones. */
+    static void range(String title, int least, int most, String inside, String outside) {
+        each(title, least + " " + (least + 1) + " " + (most - 1) + " " + most, inside);
+        each(title, (least - 1) + " " + (most + 1) + " LEAST MOST", outside);
     }
 
     static void due(String what, long got, long want) {
@@ -88,6 +72,17 @@ final class Script {
         if (wrong != 0) {
             System.exit(1);
         }
+    }
+
+    /** A call that does not end is a fault, too. */
+    private static void giveUp() {
+        try {
+            Thread.sleep(MOST_SECONDS * 1000);
+        } catch (InterruptedException interrupted) {
+            return;
+        }
+        System.out.println("a call does not end");
+        Runtime.getRuntime().halt(1);
     }
 
     private void perform(String line) {
@@ -121,13 +116,32 @@ final class Script {
     private long make(Call call) {
         calls.add(call);
         long answer = call.on(auction);
-        if (answer >= 0 && !call.onlyTells()) {
-            changes.add(call);
+        if (call.onlyTells()) {
+            return answer;
         }
+        if (answer >= 0) {
+            changes.add(call);
+            toldOfChanges = null;
+            return answer;
+        }
+        List<Call> withRefused = new ArrayList<>(changes);
+        withRefused.add(call);
+        compareWithChangesAlone(call.toString(), withRefused);
         return answer;
     }
 
-    private static Call parse(String words) {
+    private void compareWithChangesAlone(String what, List<Call> run) {
+        if (toldOfChanges == null) {
+            toldOfChanges = Telling.after(changes);
+        }
+        String difference = Telling.difference(Telling.after(run), toldOfChanges);
+        if (!difference.isEmpty()) {
+            System.out.println(title + ": " + what + " changed something: " + difference);
+        }
+        due(title + ": changes by " + what, difference.isEmpty() ? 0 : 1, 0);
+    }
+
+    static Call parse(String words) {
         String[] parts = words.split(" +");
         Object[] arguments = new Object[parts.length - 1];
         for (int i = 0; i < arguments.length; i++) {
@@ -156,80 +170,16 @@ final class Script {
             case "NO_VALUE": return PostalAuction.NO_VALUE;
             case "MOST": return Integer.MAX_VALUE;
             case "LEAST": return Integer.MIN_VALUE;
-            default: return Long.parseLong(word.strip());
+            default: return sum(word.strip());
         }
     }
 
-    private void compareWithChangesAlone() {
-        compareTellings(allTellings());
-        compareTellings(letterAndUndos());
-    }
-
-    private void compareTellings(List<Call> tellings) {
-        List<Long> told = answersAfter(calls, tellings);
-        List<Long> due = answersAfter(changes, tellings);
-        for (int i = 0; i < tellings.size(); i++) {
-            due(title + ", at its end: " + tellings.get(i), told.get(i), due.get(i));
+    private static long sum(String word) {
+        int at = Math.max(word.lastIndexOf('+'), word.lastIndexOf('-'));
+        if (at <= 0) {
+            return Long.parseLong(word);
         }
-    }
-
-    private List<Call> allTellings() {
-        List<Call> tellings = new ArrayList<>();
-        addTellings(tellings, "count", -1, 14);
-        for (int lot = 0; lot < auction.count(0); lot++) {
-            addTellings(tellings, "lot", lot, 6);
-            addTellings(tellings, "sale", lot, 6);
-            addTellings(tellings, "ranked", lot, 3);
-        }
-        for (int bid = 0; bid < auction.count(2); bid++) {
-            addTellings(tellings, "bidOf", bid, 7);
-            tellings.add(new Call("fate", bid));
-        }
-        for (int bidder = 0; bidder < auction.count(1); bidder++) {
-            addTellings(tellings, "bidder", bidder, 4);
-        }
-        for (int seller = 0; seller < 5; seller++) {
-            addTellings(tellings, "seller", seller, 4);
-        }
-        addTellings(tellings, "account", -1, 7);
-        for (int amount = 0; amount < 100; amount += 9) {
-            addTellings(tellings, "valid", amount, 3);
-        }
-        return tellings;
-    }
-
-    private static List<Call> letterAndUndos() {
-        List<Call> tellings = new ArrayList<>();
-        tellings.add(new Call("letter", 0, 0));
-        for (int i = 0; i < 5; i++) {
-            tellings.add(new Call("undo"));
-            addTellings(tellings, "count", -1, 14);
-        }
-        return tellings;
-    }
-
-    private static void addTellings(List<Call> tellings, String name, int of, int whats) {
-        for (int what = 0; what < whats; what++) {
-            tellings.add(of < 0 ? new Call(name, what) : new Call(name, of, what));
-        }
-    }
-
-    /** An object is made anew before it would come to its last call; letters and undos are few enough for one. */
-    private static List<Long> answersAfter(List<Call> run, List<Call> tellings) {
-        List<Long> told = new ArrayList<>();
-        PostalAuction auction = null;
-        int made = MOST_CALLS;
-        for (Call telling : tellings) {
-            if (made >= MOST_CALLS) {
-                auction = new PostalAuction();
-                for (Call call : run) {
-                    call.on(auction);
-                }
-                made = run.size();
-            }
-            told.add(telling.on(auction));
-            made++;
-        }
-        return told;
+        long last = Long.parseLong(word.substring(at + 1));
+        return sum(word.substring(0, at)) + (word.charAt(at) == '+' ? last : -last);
     }
 }
