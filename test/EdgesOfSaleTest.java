@@ -301,6 +301,24 @@ public final class EdgesOfSaleTest {
         Script.each(title, "60", bids + "70");
         Script.each(title, "80 89 90", bids + "90");
         Script.each(title + " [one that does not count is none]", "1 9", bids + "10");
+        Script.each(title + " [a limit makes it low]", "30 34", LOT + """
+                addBidder 1000 = 0
+                addBidder # = 1
+                bid 0 0 99 5 0 = 0
+                bid 1 0 80 5 0 = 1
+                sale 0 5 = 1
+                sale 0 1 = 35
+                """);
+        Script.each(title + " [what is left of a limit makes it low]", "40 44", LOT + """
+                addLot 0 10 0 = 1
+                addBidder 1000 = 0
+                addBidder # = 1
+                bid 1 0 20 5 0 = 0
+                bid 0 1 99 5 0 = 1
+                bid 1 1 80 5 0 = 2
+                sale 1 5 = 2
+                sale 1 1 = 35
+                """);
         Script.run(title + " [not the third one]", LOT + BIDDERS + """
                 bid 2 0 21 5 0 = 0
                 bid 1 0 31 5 0 = 1
